@@ -69,6 +69,8 @@ public final class CommandsTest {
         fault("pan 1 2;", 0);
         fault("panel 1 2;", 0);
         fault("  xyz", 2);
+        fault("panez 1 2;", 0);
+        fault("zpane 1 2;", 0);
         fault("Pane 1 2;", 0);
         fault("paneX 1 2;", 4);
         fault("1", 0);

@@ -11,6 +11,7 @@ public final class DockingTest {
         lastChildTakesSplitsWeight();
         lastChildBecomesRoot();
         takenAwayFirst();
+        againAndAgain();
         asTab();
         wrongDocking();
         atEdge();
@@ -138,6 +139,28 @@ public final class DockingTest {
         // Places are counted without the pane that moves.
         x.dock(2, 1, DockTree.RIGHT);
         Expect.groups(x, 0, 1, 2);
+    }
+
+    // Groups and splits come and go without an end to them; 16 groups in 15 splits are the most.
+    private static void againAndAgain() {
+        DockTree x = new DockTree();
+        for (int k = 0; k < 16; k++) {
+            x.addPane(1, 1);
+        }
+        for (int round = 0; round < 5; round++) {
+            x.dockAtEdge(0, DockTree.LEFT);
+            for (int k = 1; k < 16; k++) {
+                x.dock(k, k - 1, k % 2 == 0 ? DockTree.BELOW : DockTree.RIGHT);
+            }
+            Expect.groups(x, 0, 1, 2, 3, 4, 5, 6, 7, 8, 9, 10, 11, 12, 13, 14, 15);
+            Expect.due("splits of 16 groups", x.whole(6), 15);
+            Expect.due("splits above pane 15", x.pane(15, 11), 15);
+            for (int k = 0; k < 16; k++) {
+                x.close(k);
+                Expect.due("splits without pane " + k, x.whole(6), Math.max(0, 14 - k));
+            }
+            Expect.groups(x);
+        }
     }
 
     private static void asTab() {

@@ -52,8 +52,11 @@ public final class SharingTest {
         widths(row(5, 26, 50), 22, 26, 50);
         // Two of one round: 24 each of 97, so 30 and 40; the rest of 27 goes to two.
         widths(row(1, 30, 40, 1), 14, 30, 40, 13);
-        // The cells that are left over go to the free ones alone: 98 - 33 = 65.
+        // The cells that are left over go to the free ones alone: 98 - 34 = 64, and 98 - 33 = 65.
+        widths(row(34, 1, 1), 34, 32, 32);
         widths(row(33, 1, 1), 33, 33, 32);
+        // Who gets just its least size stays free, and gets one of the 2 cells that are left over.
+        widths(row(32, 1, 1), 33, 33, 32);
     }
 
     private static void tightOrNot() {
