@@ -238,7 +238,7 @@ public final class DockingTest {
         Expect.due("dockAtEdge of one of two", x.dockAtEdge(0, DockTree.ABOVE), 2);
         Expect.groups(x, 0, 1);
         x.setShare(0, 40);
-        // The first child leaves first, so the weight is the one of the child that is first then.
+        // Without pane 0 the root is a group again, so this makes a new split, with the weight 1.
         x.dockAtEdge(0, DockTree.BELOW);
         Expect.due("weight of pane 0", x.pane(0, 10), 1);
         x.floatAt(1, 0, 0, 5, 5);

@@ -90,6 +90,35 @@ final class Expect {
         return x;
     }
 
+    /** A new object with as many panes of the least size 1, none of them docked. */
+    static DockTree closed(int panes) {
+        DockTree x = new DockTree();
+        for (int k = 0; k < panes; k++) {
+            x.addPane(1, 1);
+        }
+        return x;
+    }
+
+    /** A new object with panes of these least widths and the least height 1, one beside the other. */
+    static DockTree row(int... widths) {
+        DockTree x = new DockTree();
+        for (int k = 0; k < widths.length; k++) {
+            x.addPane(widths[k], 1);
+            x.dockAtEdge(k, DockTree.RIGHT);
+        }
+        return x;
+    }
+
+    /** Calls that change nothing fill the undo stack, so that undoing them leaves it empty, and all else as it was. */
+    static void emptyUndoStack(DockTree x) {
+        for (int k = 0; k < 4; k++) {
+            x.setWindow(x.whole(0), x.whole(1));
+        }
+        for (int k = 3; k >= 0; k--) {
+            due("undo() that empties the stack", x.undo(), k);
+        }
+    }
+
     static void type(DockTree x, String text) {
         for (int k = 0; k < text.length(); k++) {
             x.type(text.charAt(k));

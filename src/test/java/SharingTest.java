@@ -17,16 +17,6 @@ public final class SharingTest {
         Expect.end();
     }
 
-    /** Panes with these least widths, one beside the other. */
-    private static DockTree row(int... widths) {
-        DockTree x = new DockTree();
-        for (int k = 0; k < widths.length; k++) {
-            x.addPane(widths[k], 1);
-            x.dockAtEdge(k, DockTree.RIGHT);
-        }
-        return x;
-    }
-
     private static void widths(DockTree x, int... widths) {
         int column = 0;
         for (int k = 0; k < widths.length; k++) {
@@ -37,7 +27,7 @@ public final class SharingTest {
     }
 
     private static void equalWeights() {
-        DockTree x = row(1, 1, 1);
+        DockTree x = Expect.row(1, 1, 1);
         // 98 cells, 2 of them left over.
         widths(x, 33, 33, 32);
         x.setWindow(20, 60);
@@ -48,19 +38,19 @@ public final class SharingTest {
 
     private static void leastSizesInRounds() {
         // 98 cells, 32 each: pane 0 gets 50; then 24 each of 48: pane 1 gets 26.
-        widths(row(50, 26, 5), 50, 26, 22);
-        widths(row(5, 26, 50), 22, 26, 50);
+        widths(Expect.row(50, 26, 5), 50, 26, 22);
+        widths(Expect.row(5, 26, 50), 22, 26, 50);
         // Two of one round: 24 each of 97, so 30 and 40; the rest of 27 goes to two.
-        widths(row(1, 30, 40, 1), 14, 30, 40, 13);
+        widths(Expect.row(1, 30, 40, 1), 14, 30, 40, 13);
         // The cells that are left over go to the free ones alone: 98 - 34 = 64, and 98 - 33 = 65.
-        widths(row(34, 1, 1), 34, 32, 32);
-        widths(row(33, 1, 1), 33, 33, 32);
+        widths(Expect.row(34, 1, 1), 34, 32, 32);
+        widths(Expect.row(33, 1, 1), 33, 33, 32);
         // Who gets just its least size stays free, and gets one of the 2 cells that are left over.
-        widths(row(32, 1, 1), 33, 33, 32);
+        widths(Expect.row(32, 1, 1), 33, 33, 32);
     }
 
     private static void tightOrNot() {
-        DockTree x = row(10, 9);
+        DockTree x = Expect.row(10, 9);
         x.setWindow(20, 20);
         Expect.due("19 cells for 19 are tight", x.split(0, 0, 7), 1);
         widths(x, 10, 9);
@@ -72,7 +62,7 @@ public final class SharingTest {
         x.setLeast(0, 60, 1);
         // 19 * 60 / 68 = 16.8, 19 * 8 / 68 = 2.2; the one that is left goes to the first.
         widths(x, 17, 2);
-        DockTree y = row(60, 30, 20);
+        DockTree y = Expect.row(60, 30, 20);
         y.setWindow(20, 20);
         widths(y, 10, 5, 3);
         // Weights do not count in a tight split.
@@ -81,7 +71,7 @@ public final class SharingTest {
     }
 
     private static void tightWithoutCells() {
-        DockTree x = row(60, 60, 60, 60, 1);
+        DockTree x = Expect.row(60, 60, 60, 60, 1);
         x.addPane(1, 1);
         x.addPane(1, 1);
         x.addPane(1, 1);
@@ -102,7 +92,7 @@ public final class SharingTest {
     }
 
     private static void setShare() {
-        DockTree x = row(10, 30, 5);
+        DockTree x = Expect.row(10, 30, 5);
         Expect.due("setShare(0, 3)", x.setShare(0, 3), 1);
         // 98 cells: 58, 19, 19, so pane 1 gets 30; then 68 by 3 and 1.
         widths(x, 51, 30, 17);
@@ -132,7 +122,7 @@ public final class SharingTest {
     }
 
     private static void greatestWeights() {
-        DockTree x = row(1, 1, 1, 1, 1, 1, 1, 1, 1, 1, 1, 1, 1, 1, 1, 1);
+        DockTree x = Expect.row(1, 1, 1, 1, 1, 1, 1, 1, 1, 1, 1, 1, 1, 1, 1, 1);
         x.setWindow(400, 20);
         for (int k = 0; k < 16; k++) {
             x.setShare(k, 1000000);
@@ -145,7 +135,7 @@ public final class SharingTest {
     }
 
     private static void drag() {
-        DockTree x = row(10, 30, 5);
+        DockTree x = Expect.row(10, 30, 5);
         x.setShare(0, 3);
         Expect.due("drag(0, -20)", x.drag(0, -20), 31);
         // 31, 30, 17 and then 20 to the next one: the weights are the cells.
@@ -164,7 +154,7 @@ public final class SharingTest {
     }
 
     private static void dragToTheEdge() {
-        DockTree x = row(10, 30, 5);
+        DockTree x = Expect.row(10, 30, 5);
         // 33, 33, 32 cells: 23 can go to the right, 3 to the left.
         Expect.badState("drag(0, -24)", x, () -> x.drag(0, -24));
         Expect.badState("drag(0, 4)", x, () -> x.drag(0, 4));
@@ -191,7 +181,7 @@ public final class SharingTest {
     }
 
     private static void wrongDrag() {
-        DockTree x = row(10, 30, 5);
+        DockTree x = Expect.row(10, 30, 5);
         x.addPane(1, 1);
         Expect.outOfBounds("drag(4, 401)", x, () -> x.drag(4, 401));
         Expect.outOfBounds("drag(-1, 0)", x, () -> x.drag(-1, 0));

@@ -38,12 +38,7 @@ public final class UndoTest {
         x.dockAtEdge(0, DockTree.LEFT);
         x.dock(1, 0, DockTree.RIGHT);
         Expect.type(x, "pane 4 4; close 1;");
-        for (int k = 0; k < 4; k++) {
-            x.setWindow(100, 60);
-        }
-        for (int k = 3; k >= 0; k--) {
-            Expect.due("undo() that empties the stack", x.undo(), k);
-        }
+        Expect.emptyUndoStack(x);
         x.dock(2, 1, DockTree.TAB);
         x.floatAt(3, 5, 5, 9, 9);
         x.save(1);

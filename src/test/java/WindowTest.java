@@ -5,6 +5,7 @@ public final class WindowTest {
 
     public static void main(String[] args) {
         newObject();
+        newObjectHasNoPane();
         setWindow();
         addPane();
         addPaneSixteen();
@@ -35,6 +36,26 @@ public final class WindowTest {
         Expect.floating(x);
         Expect.due("paneAt(0, 0) of a new object", x.paneAt(0, 0), DockTree.NONE);
         Expect.due("clearCommands() of a new object", x.clearCommands(), 0);
+    }
+
+    private static void newObjectHasNoPane() {
+        DockTree x = new DockTree();
+        Expect.outOfBounds("setLeast(0, 1, 1)", x, () -> x.setLeast(0, 1, 1));
+        Expect.outOfBounds("dock(0, 1, LEFT)", x, () -> x.dock(0, 1, DockTree.LEFT));
+        Expect.outOfBounds("dockAtEdge(0, LEFT)", x, () -> x.dockAtEdge(0, DockTree.LEFT));
+        Expect.outOfBounds("floatAt(0, 0, 0, 1, 1)", x, () -> x.floatAt(0, 0, 0, 1, 1));
+        Expect.outOfBounds("raise(0)", x, () -> x.raise(0));
+        Expect.outOfBounds("close(0)", x, () -> x.close(0));
+        Expect.outOfBounds("activate(0)", x, () -> x.activate(0));
+        Expect.outOfBounds("moveTab(0, 0)", x, () -> x.moveTab(0, 0));
+        Expect.outOfBounds("setShare(0, 1)", x, () -> x.setShare(0, 1));
+        Expect.outOfBounds("drag(0, 0)", x, () -> x.drag(0, 0));
+        Expect.outOfBounds("split(0, 0, 0)", x, () -> x.split(0, 0, 0));
+        Expect.outOfBounds("tab(0, 0)", x, () -> x.tab(0, 0));
+        Expect.outOfBounds("cellsIf(0, 1, LEFT)", x, () -> x.cellsIf(0, 1, DockTree.LEFT));
+        Expect.outOfBounds("bestSide(0, 1)", x, () -> x.bestSide(0, 1));
+        Expect.due("runCommands()", x.runCommands(), 0);
+        Expect.due("undo() of the run", x.undo(), 0);
     }
 
     private static void setWindow() {
