@@ -81,6 +81,7 @@ public final class TabsTest {
         x.floatAt(0, 0, 0, 9, 9);
         x.floatAt(1, 0, 0, 9, 9);
         x.dock(2, 0, DockTree.TAB);
+        Expect.due("activate(1) of the only tab", x.activate(1), 1);
         Expect.due("activate(0) of a floating group", x.activate(0), 2);
         // It does not raise the group.
         Expect.floating(x, 0, 1);
